@@ -1686,6 +1686,9 @@ public final class Layerboard {
         private final int[] middle = new int[MOST_EDGES];
         private final int[] open = new int[MOST_EDGES];
         private int opened;
+        private int lowest;
+        private int highest;
+        /** All false between the measurings. */
         private final boolean[] isCut = new boolean[SIDE * FINE + 1];
 
         static boolean isHeld(int how, boolean byFirst, boolean bySecond) {
@@ -1713,13 +1716,15 @@ public final class Layerboard {
         /** Fills the sums, by how, with the areas of what the two make, in units. */
         void measure(Shape first, Shape second) {
             edges = 0;
+            lowest = SIDE * FINE;
+            highest = 0;
             load(first, 0);
             load(second, first.count);
             cutAtCrossings();
             Arrays.fill(sums, 0);
             opened = 0;
             int from = NONE;
-            for (int y = 0; y < isCut.length; y++) {
+            for (int y = Math.max(lowest, 0); y <= highest && y < isCut.length; y++) {
                 if (isCut[y]) {
                     isCut[y] = false;
                     if (from != NONE) {
@@ -1753,6 +1758,8 @@ public final class Layerboard {
             bit[edges] = itsBit;
             isCut[low[edges]] = true;
             isCut[high[edges]] = true;
+            lowest = Math.min(lowest, low[edges]);
+            highest = Math.max(highest, high[edges]);
             edges++;
         }
 
@@ -1901,6 +1908,7 @@ public final class Layerboard {
         private final int[] up = new int[POINTS];
         private final int[] rowNews = new int[LINE];
         private final int[] columnNews = new int[LINE];
+        /** All 0 between the lines. */
         private final int[] flips = new int[LINE];
         private int waiting;
 
@@ -1919,13 +1927,13 @@ public final class Layerboard {
             if (y < s.lower || y >= s.upper || y < 0 || y >= LINE) {
                 return;
             }
-            Arrays.fill(flips, 0);
             for (int k = 0; k < s.count; k++) {
                 flipAlong(s.parts[k], 2 * y + odd, odd, 1 << k);
             }
             int set = 0;
-            for (int x = SIDE; x >= 0; x--) {
+            for (int x = Math.min(s.right, SIDE); x >= 0 && x >= s.left - 1; x--) {
                 set ^= flips[x];
+                flips[x] = 0;
                 if (s.hasSet(set)) {
                     marks[y * LINE + x] = mark;
                 }
