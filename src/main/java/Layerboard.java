@@ -76,7 +76,7 @@ public final class Layerboard {
         needHand(hand);
         needLayer(layer);
         needColour(colour);
-        int number = makePolygon(hand, layer, colour, penPoints);
+        int number = make(nextPolygon(hand, layer, colour, penPoints));
         penPoints.clear();
         return number;
     }
@@ -89,7 +89,7 @@ public final class Layerboard {
         if (tape.readCorners(tapePoints) != NONE) {
             throw new IllegalStateException("the tape has a fault");
         }
-        return makePolygon(hand, layer, colour, tapePoints);
+        return make(nextPolygon(hand, layer, colour, tapePoints));
     }
 
     public int box(int hand, int layer, int colour, int x, int y, int wide, int high)
@@ -130,7 +130,7 @@ public final class Layerboard {
         lots.seed = seed;
         int last = NONE;
         for (int i = 0; i < many; i++) {
-            last = makeByLots(hand);
+            last = make(nextByLots(hand));
         }
         return last;
     }
@@ -598,27 +598,16 @@ public final class Layerboard {
         return change;
     }
 
-    /** The change is the next one of the journal; it counts as made only if the board does not refuse it. */
-    private int make(Change change) {
-        int answer = board.perform(change, made);
-        if (answer == REFUSED) {
-            throw new IllegalStateException("it can not be done");
-        }
-        change.isStanding = true;
-        made++;
-        return answer;
-    }
-
-    private int makePolygon(int hand, int layer, int colour, Polygon points) {
+    private Change nextPolygon(int hand, int layer, int colour, Polygon points) {
         if (!points.isProper()) {
             throw new IllegalStateException("these are no corners of a polygon");
         }
         Change change = nextDrawing(hand, layer, colour);
         change.outline.take(points);
-        return make(change);
+        return change;
     }
 
-    private int makeByLots(int hand) {
+    private Change nextByLots(int hand) {
         int kind = lots.next(4);
         int layer = lots.next(LAYERS);
         int colour = lots.next(COLOURS) + 1;
@@ -638,7 +627,18 @@ public final class Layerboard {
             change.outline.add(x + 2 * n, y);
             change.outline.add(x, y + n);
         }
-        return make(change);
+        return change;
+    }
+
+    /** The change is the next one of the journal; it counts as made only if the board does not refuse it. */
+    private int make(Change change) {
+        int answer = board.perform(change, made);
+        if (answer == REFUSED) {
+            throw new IllegalStateException("it can not be done");
+        }
+        change.isStanding = true;
+        made++;
+        return answer;
     }
 
     private int latestOf(int hand) {
@@ -919,7 +919,10 @@ public final class Layerboard {
                     p.ys[i] += dy;
                 }
             }
-            findFrame();
+            left += dx;
+            right += dx;
+            lower += dy;
+            upper += dy;
         }
 
         void turnQuarter() {
@@ -1412,7 +1415,14 @@ public final class Layerboard {
                     }
                 }
             }
-            return shiftAll();
+            int count = 0;
+            for (int i = 0; i < MOST_CHANGES; i++) {
+                if (all[i].isThere && (across[i] != 0 || up[i] != 0)) {
+                    all[i].shift(across[i], up[i]);
+                    count++;
+                }
+            }
+            return count;
         }
 
         /** A tie on the way to a chosen leader that goes only across, or only up, holds back the rest. */
@@ -1430,17 +1440,6 @@ public final class Layerboard {
                 goesUp = goesUp && all[at].kind != 1;
                 at = all[at].leader;
             }
-        }
-
-        private int shiftAll() {
-            int count = 0;
-            for (int i = 0; i < MOST_CHANGES; i++) {
-                if (all[i].isThere && (across[i] != 0 || up[i] != 0)) {
-                    all[i].shift(across[i], up[i]);
-                    count++;
-                }
-            }
-            return count;
         }
 
         // -- groups
