@@ -76,6 +76,7 @@ public final class AskingTest {
     private static void promise32Corner() {
         Layerboard b = new Layerboard();
         Due.draws(b, 1, 2, 21, 2, 1, 12);
+        Due.is("32 the first corner", b.corner(0, 0, 0, false), 1);
         Due.is("32 x", b.corner(0, 0, 1, false), 21);
         Due.is("32 y", b.corner(0, 0, 2, true), 12);
         Due.fails("32 corner", Due.INDEX, () -> b.corner(0, 0, 3, true));
@@ -152,6 +153,8 @@ public final class AskingTest {
         Due.is("35 the corner of the box, not of the diamond", b.caught(10, 10, 2, 3, false), 0b0001);
         Due.is("35 just at the diamond's edge", b.caught(10, 10, 3, 2, false), 0b0001);
         Due.is("35 over the diamond's edge", b.caught(10, 10, 3, 3, false), 0b0011);
+        Due.is("35 in width alone", b.caught(0, 20, 60, 1, true), 0);
+        Due.is("35 in height alone", b.caught(20, 0, 1, 60, true), 0);
         Due.is("35 an edge has no area", b.caught(20, 10, 10, 10, false), 0);
         Due.is("35 all that hold points", b.caught(0, 0, 60, 60, false), 0b0111);
         b.show(0, 1, false);
@@ -267,6 +270,12 @@ public final class AskingTest {
             Due.is("39 by x", c.meeting(0, 1, i, 0), corners[i][0]);
             Due.is("39 then by y", c.meeting(0, 1, i, 2), corners[i][1]);
         }
+        Layerboard d = new Layerboard();
+        d.box(0, 0, 1, 59, 59, 1, 1);
+        d.box(0, 0, 1, 58, 59, 1, 1);
+        Due.is("39 at the upper edge of the board", d.meetings(0, 1), 2);
+        meetingIs("39 at the upper edge of the board", d, 1, 59, 1, 60, 1);
+        Due.is("39 the last point of the board", d.meeting(0, 0, 3, 0) + d.meeting(0, 0, 3, 2), 120);
     }
 
     private static void wayIs(String what, Layerboard b, int shape, int other, int bends, int steps) {
@@ -362,6 +371,7 @@ public final class AskingTest {
         b.box(0, 2, 9, 59, 5, 1, 10);
         Due.is("42 a row", b.row(5), 2 + 14 + 6 + 540);
         Due.is("42 below", b.row(4), 0);
+        Due.is("42 again", b.row(5), 2 + 14 + 6 + 540);
         Due.is("42 above", b.row(6), 540);
         b.show(0, 1, false);
         Due.is("42 visible ones", b.row(5), 2 + 4 + 6 + 540);
@@ -383,6 +393,12 @@ public final class AskingTest {
         b.box(0, 2, 5, 9, 9, 1, 1);
         b.box(0, 2, 5, 8, 8, 1, 1);
         Due.is("43 corners do not touch", b.field(9, 9), 1);
+        b.box(0, 3, 7, 30, 30, 1, 2);
+        b.box(0, 3, 8, 40, 30, 2, 1);
+        Due.is("43 from below", b.field(30, 30), 2);
+        Due.is("43 from above", b.field(30, 31), 2);
+        Due.is("43 from the left", b.field(40, 30), 2);
+        Due.is("43 from the right", b.field(41, 30), 2);
         Due.fails("43 x", Due.INDEX, () -> b.field(60, 0));
         Due.fails("43 x", Due.INDEX, () -> b.field(-1, 0));
         Due.fails("43 y", Due.INDEX, () -> b.field(0, 60));

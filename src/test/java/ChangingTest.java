@@ -59,6 +59,14 @@ public final class ChangingTest {
 
     private static void promise10Wrong() {
         Layerboard b = threeBoxes();
+        Layerboard far = new Layerboard();
+        far.box(0, 0, 1, 60 - 1, 60 - 1, 1, 1);
+        far.box(0, 0, 1, 0, 0, 1, 1);
+        Due.is("10 by -59", far.move(0, 0, -59, -59, true), 1);
+        Due.fails("10 -60 is no wrong argument", Due.STATE, () -> far.move(0, 0, -60, 0, true));
+        Due.fails("10 -60 is no wrong argument", Due.STATE, () -> far.move(0, 0, 0, -60, true));
+        Due.fails("10 60 is no wrong argument", Due.STATE, () -> far.move(0, 0, 60, 0, true));
+        Due.fails("10 60 is no wrong argument", Due.STATE, () -> far.move(0, 0, 0, 60, true));
         Due.fails("10 hand", Due.INDEX, () -> b.move(3, 0, 61, 0, true));
         Due.fails("10 shape", Due.INDEX, () -> b.move(0, 3, 61, 0, true));
         int[] bad = {-61, 61, Integer.MIN_VALUE, Integer.MAX_VALUE};
@@ -89,6 +97,10 @@ public final class ChangingTest {
         Due.fails("11 over the right", Due.STATE, () -> b.turn(0, 4, 3));
         b.box(0, 0, 1, 0, 50, 20, 10);
         Due.fails("11 over the upper side", Due.STATE, () -> b.turn(0, 7, 1));
+        b.box(0, 0, 1, 40, 45, 15, 15);
+        Due.is("11 just to the upper side", b.turn(0, 8, 1), 55);
+        b.box(0, 0, 1, 45, 5, 10, 15);
+        Due.is("11 just to the right", b.turn(0, 10, 3), 60);
         placeIs("11 nothing follows", b, 0, 10, 20);
         Due.fails("11 hand", Due.INDEX, () -> b.turn(-1, 0, 0));
         Due.fails("11 shape", Due.INDEX, () -> b.turn(0, 1, 0));
@@ -136,6 +148,11 @@ public final class ChangingTest {
         b.tie(0, 5, 3, 0);
         b.undo(0);
         Due.is("13 four times", b.grow(0, 5, 4), 4);
+        b.box(0, 0, 1, 40, 0, 10, 5);
+        Due.is("13 just to the right edge", b.grow(0, 8, 2), 60);
+        int eight = Due.draws(b, 1, 0, 2, 0, 4, 1, 5, 3, 4, 5, 2, 6, 0, 5, 0, 2);
+        b.grow(0, eight, 3);
+        Due.paperIs("13 eight corners", b, eight, "(3,0)(6,0)(12,3)(15,9)(12,15)(6,18)(0,15)(0,6)");
         Due.fillTo(b, 60);
         Due.fails("13 no more changes", Due.STATE, () -> b.grow(0, 5, 2));
     }

@@ -105,22 +105,25 @@ public final class ModelTest {
     }
 
     private void pens() {
-        int x = n(61);
-        int y = n(61);
+        // runs in a corner of the board, with short edges, come to the ends of edges and to the board's own
+        int least = flavour == 0 ? 52 * n(2) : 0;
+        int most = flavour == 0 ? least + 8 : 60;
+        int x = least + n(most - least + 1);
+        int y = least + n(most - least + 1);
         List<int[]> points = new ArrayList<>(List.of(new int[] {x, y}));
         int many = 2 + n(6);
         for (int i = 0; i < many; i++) {
             int[] s = STEPS[n(STEPS.length)];
-            int by = (n(20) + 1) * (n(2) * 2 - 1);
+            int by = (n(flavour == 0 ? 3 : 20) + 1) * (n(2) * 2 - 1);
             int nx = x + s[0] * by;
             int ny = y + s[1] * by;
-            if (nx >= 0 && nx <= 60 && ny >= 0 && ny <= 60) {
+            if (nx >= least && nx <= most && ny >= least && ny <= most) {
                 x = nx;
                 y = ny;
                 points.add(new int[] {x, y});
             }
         }
-        close(points);
+        close(points, least, most);
         if (n(4) > 0) {
             call("lift");
         }
@@ -130,15 +133,15 @@ public final class ModelTest {
     }
 
     /** Looks for a point, or two, with which the row closes by edges that may be. */
-    private void close(List<int[]> points) {
+    private void close(List<int[]> points, int least, int most) {
         int[] a = points.get(points.size() - 1);
         int[] b = points.get(0);
         for (int i = 0; i < 400; i++) {
             int[] s = STEPS[n(STEPS.length)];
-            int by = n(81) - 40;
+            int by = flavour == 0 ? n(9) - 4 : n(81) - 40;
             int x = a[0] + s[0] * by;
             int y = a[1] + s[1] * by;
-            if (x >= 0 && x <= 60 && y >= 0 && y <= 60 && goes(x - b[0], y - b[1]) && by != 0) {
+            if (x >= least && x <= most && y >= least && y <= most && goes(x - b[0], y - b[1]) && by != 0) {
                 points.add(new int[] {x, y});
                 return;
             }
@@ -297,7 +300,7 @@ public final class ModelTest {
             for (int i = 0; i < 8; i++) {
                 call("way", n(many), n(many), n(2) == 0);
             }
-        } else if (flavour == 2) {
+        } else if (flavour == 2 || flavour == 0) {
             for (int i = 0; i < 8; i++) {
                 pens();
                 call("draw", n(3), layer(), colour());
