@@ -23,6 +23,14 @@ final class Due {
         is(what, got ? 1 : 0, want ? 1 : 0);
     }
 
+    static void is(String what, String got, String want) {
+        held++;
+        if (!got.equals(want)) {
+            wrong++;
+            System.out.println(what + ": answered " + got + ", due is " + want);
+        }
+    }
+
     static void fails(String what, Class<?> want, Call call) {
         held++;
         try {
@@ -34,6 +42,17 @@ final class Due {
                 wrong++;
                 System.out.println(what + ": threw " + e + ", due is " + want.getSimpleName());
             }
+        }
+    }
+
+    /** The call throws nothing. */
+    static void answers(String what, Call call) {
+        held++;
+        try {
+            call.run();
+        } catch (RuntimeException e) {
+            wrong++;
+            System.out.println(what + ": threw " + e + ", due is an answer");
         }
     }
 
@@ -66,12 +85,7 @@ final class Due {
     }
 
     static void paperIs(String what, Layerboard b, int shape, String want) {
-        held++;
-        String got = paper(b, shape);
-        if (!got.equals(want)) {
-            wrong++;
-            System.out.println(what + ": the paper is " + got + ", due is " + want);
-        }
+        is(what + ", the paper", paper(b, shape), want);
     }
 
     /** Makes changes that alter nothing until so many are made. */
