@@ -11,11 +11,16 @@ final class AreaSentences {
         d.test(AreaSentences::tablesOfJoined, "It has the polygons of the first one");
         d.test(AreaSentences::leastDenominators, "Areas are told as fractions");
         d.test(AreaSentences::crossingsInAllParts, "Areas are told as fractions");
+        d.test(AreaSentences::lowEdges, "Areas are told as fractions");
+        d.test(AreaSentences::sixtyFourEdges, "Areas are told as fractions");
         d.test(AreaSentences::endsMeetToo, "Two shapes, or one and itself, meet");
+        d.test(AreaSentences::endsOnAllSides, "Two shapes, or one and itself, meet");
+        d.test(AreaSentences::nearbyEndsDoNotMeet, "Two shapes, or one and itself, meet");
         d.test(AreaSentences::parallelsDoNotMeet, "Two shapes, or one and itself, meet");
         d.test(AreaSentences::oneMeetsItself, "Two shapes, or one and itself, meet");
         d.test(AreaSentences::eachPointOnce, "each point once");
         d.test(AreaSentences::meetingsInOrder, "each point once");
+        d.test(AreaSentences::manyMeetings, "each point once");
         d.in("7 The picture");
         d.test(AreaSentences::visibleAtFirst, "A layer is visible, as all are at first", "its shapes are so, too.");
         d.test(AreaSentences::middlesOfCells, "The picture has cells x, y");
@@ -153,7 +158,7 @@ final class AreaSentences {
         Due.is("the rest, the denominator", b.areaOf(2, 4, 0, true), 2);
     }
 
-    /** Two triangles, one by a level edge and a leaning one, so that leaning edges cross in thirds, fifths and so on. */
+    /** Triangles of which leaning edges cross at places that are whole, or in thirds, fifths and quarters. */
     private static void crossingsInAllParts() {
         Layerboard b = new Layerboard();
         // y = 2x to (5, 10) and y = 10 - x / 2 to (20, 0) cross at (4, 8); y = 10 - x at (10 / 3, 20 / 3)
@@ -174,6 +179,53 @@ final class AreaSentences {
         Due.draws(b, 0, 0, 5, 10, 0, 10);
         Due.is("in eighths", b.areaOf(1, 4, 5, false), 117);
         Due.is("in eighths, the denominator", b.areaOf(1, 4, 5, true), 8);
+    }
+
+    /** Edges that go up, or down, by 1 alone. */
+    private static void lowEdges() {
+        Layerboard b = new Layerboard();
+        Due.draws(b, 0, 0, 2, 1, 0, 1);
+        areaIs("up by 1, to the right by 2", b, 0, 1, 1);
+        Due.draws(b, 0, 0, 2, 0, 0, 1);
+        areaIs("up by 1, to the left by 2", b, 1, 1, 1);
+        Due.draws(b, 0, 1, 2, 0, 2, 1);
+        areaIs("down by 1, to the right by 2", b, 2, 1, 1);
+        Due.draws(b, 2, 1, 0, 0, 2, 0);
+        areaIs("down by 1, to the left by 2", b, 3, 1, 1);
+        Due.draws(b, 0, 0, 1, 1, 0, 1);
+        areaIs("up by 1, to the right by 1", b, 4, 1, 2);
+        Due.is("left of the middle of the edge", b.holds(4, 0, 1), true);
+        Due.is("on the edge", b.holds(4, 1, 1), false);
+    }
+
+    /** Eight corners, all edges leaning, 12 wide and high: 144 less 4 times 12. */
+    private static int eightCorners(Layerboard b, int x, int y) {
+        return Due.draws(b, x + 6, y, x + 10, y + 2, x + 12, y + 6, x + 10, y + 10, x + 6, y + 12, x + 2, y + 10, x, y + 6,
+                x + 2, y + 2);
+    }
+
+    /** Four of them joined; there are four places in a row, row by row. */
+    private static int fourOfThem(Layerboard b, int first) {
+        int[] four = new int[4];
+        for (int i = 0; i < 4; i++) {
+            four[i] = eightCorners(b, 14 * ((first + i) % 4), 14 * ((first + i) / 4));
+        }
+        return b.join(0, 0, b.join(0, 0, four[0], four[1]), b.join(0, 0, four[2], four[3]));
+    }
+
+    private static void sixtyFourEdges() {
+        Layerboard b = new Layerboard();
+        int one = fourOfThem(b, 0);
+        int other = fourOfThem(b, 6);
+        int half = fourOfThem(b, 2);
+        areaIs("four", b, one, 384, 1);
+        int[] apart = {768, 0, 384, 768};
+        int[] together = {576, 192, 192, 384};
+        for (int how = 0; how < 4; how++) {
+            Due.is("none in common, by " + how, b.areaOf(how, one, other, false), apart[how]);
+            Due.is("two in common, by " + how, b.areaOf(how, one, half, false), together[how]);
+            Due.is("two in common, the other way, by " + how, b.areaOf(how, half, one, false), together[how]);
+        }
     }
 
     private static void meetingIs(String what, Layerboard b, int one, int other, int place, int... want) {
@@ -200,6 +252,43 @@ final class AreaSentences {
         Due.is("edges that cross", b.meetings(0, 6), 2);
         meetingIs("half way up", b, 0, 6, 0, 20, 1, 23, 2);
         meetingIs("half way up", b, 0, 6, 1, 20, 1, 29, 2);
+    }
+
+    private static void rectangle(Layerboard b, int x, int y, int wide, int high, boolean otherWay) {
+        if (otherWay) {
+            Due.draws(b, x, y, x, y + high, x + wide, y + high, x + wide, y);
+        } else {
+            b.box(0, 0, 1, x, y, wide, high);
+        }
+    }
+
+    /** Two ends of edges of the one lie on an edge of the other one, beside which a third edge lies. */
+    private static void endsOnAllSides() {
+        int[][] beside = {{20, 12, 5, 5}, {5, 12, 5, 5}, {12, 20, 5, 5}, {12, 5, 5, 5}};
+        for (int[] r : beside) {
+            for (int turned = 0; turned < 4; turned++) {
+                Layerboard b = new Layerboard();
+                rectangle(b, 10, 10, 10, 10, turned % 2 == 1);
+                rectangle(b, r[0], r[1], r[2], r[3], turned / 2 == 1);
+                Due.is("two ends", b.meetings(0, 1), 2);
+                Due.is("two ends, the other way", b.meetings(1, 0), 2);
+            }
+        }
+    }
+
+    private static void nearbyEndsDoNotMeet() {
+        int[] due = {4, 2, 1};
+        for (int dx = -2; dx <= 2; dx++) {
+            for (int dy = -2; dy <= 2; dy++) {
+                for (int turned = 0; turned < 4; turned++) {
+                    Layerboard b = new Layerboard();
+                    rectangle(b, 10, 10, 1, 1, turned % 2 == 1);
+                    rectangle(b, 10 + dx, 10 + dy, 1, 1, turned / 2 == 1);
+                    boolean isNear = Math.abs(dx) < 2 && Math.abs(dy) < 2;
+                    Due.is(dx + " and " + dy + " beside it", b.meetings(0, 1), isNear ? due[Math.abs(dx) + Math.abs(dy)] : 0);
+                }
+            }
+        }
     }
 
     private static void parallelsDoNotMeet() {
@@ -263,6 +352,29 @@ final class AreaSentences {
         meetingIs("the least x", c, 0, 1, 0, 1, 1, 2, 1);
         meetingIs("the next", c, 0, 1, 1, 3, 2, 3, 1);
         meetingIs("on the lower edge", c, 0, 1, 2, 3, 1, 0, 1);
+    }
+
+    /** Sixteen upright edges and sixteen level ones from side to side, in four polygons of eight corners each. */
+    private static void manyMeetings() {
+        Layerboard b = new Layerboard();
+        for (int i = 0; i < 8; i++) {
+            int at = 16 * (i % 4);
+            int[] row = {at, 0, at, 60, at + 4, 60, at + 4, 0, at + 8, 0, at + 8, 60, at + 12, 60, at + 12, 0};
+            for (int k = 0; k < 8 && i >= 4; k++) {
+                int x = row[2 * k];
+                row[2 * k] = row[2 * k + 1];
+                row[2 * k + 1] = x;
+            }
+            Due.draws(b, row);
+        }
+        int upright = b.join(0, 0, b.join(0, 0, 0, 1), b.join(0, 0, 2, 3));
+        int level = b.join(0, 0, b.join(0, 0, 4, 5), b.join(0, 0, 6, 7));
+        Due.is("how many", b.meetings(upright, level), 256);
+        for (int place = 0; place < 256; place += 15) {
+            meetingIs("many", b, upright, level, place, 4 * (place / 16), 1, 4 * (place % 16), 1);
+        }
+        Due.fails("place 256", Due.INDEX, () -> b.meeting(upright, level, 256, 0));
+        Due.is("sound", b.isSound(), true);
     }
 
     // ---- 7 the picture
@@ -441,6 +553,11 @@ final class AreaSentences {
 
     /** The first and the last point count as well, also for a way from a shape to itself. */
     private static void heldByTheThird() {
+        Layerboard a = new Layerboard();
+        a.box(0, 0, 1, 10, 0, 1, 30);
+        a.box(0, 0, 1, 5, 5, 4, 4);
+        a.box(0, 0, 1, 20, 5, 4, 4);
+        wayIs("the third one has the number 0", a, 1, 2, 2, 15 + 50);
         Layerboard b = new Layerboard();
         b.box(0, 0, 1, 5, 5, 4, 4);
         b.box(0, 0, 1, 20, 5, 4, 4);

@@ -347,11 +347,13 @@ final class ChangeSentences {
         b.tie(0, 2, 1, 0);
         Due.is("alone", b.move(1, 0, 3, -4, true), 1);
         placeIs("alone", b, 0, 13, 6);
+        Due.paperIs("all its corners", b, 0, "(13,6)(17,6)(17,10)(13,10)");
         placeIs("the other one of its group", b, 1, 20, 10);
         Due.is("what goes together, and what follows", b.move(1, 0, -1, 2, false), 3);
         placeIs("together", b, 0, 12, 8);
         placeIs("together", b, 1, 19, 12);
         placeIs("what follows", b, 2, 29, 12);
+        Due.paperIs("all its corners", b, 2, "(29,12)(33,12)(33,16)(29,16)");
         Due.is("alone, and what follows", b.move(1, 1, 1, 0, true), 2);
         Due.is("by nothing none comes elsewhere", b.move(1, 0, 0, 0, false), 0);
         Due.is("it is a change", b.undo(1), 8);
@@ -668,6 +670,8 @@ final class ChangeSentences {
             Due.fails("place " + place + " without a ring", Due.INDEX, () -> b.ring(2, 1, place));
         }
         Due.fails("place 0 without a ring", Due.INDEX, () -> b.ring(2, 1, 0));
+        Due.fails("NONE without a shape", Due.INDEX, () -> b.ring(3, 1, NONE));
+        Due.fails("NONE without a leader", Due.INDEX, () -> b.ring(1, 3, NONE));
         Due.is("NONE without a ring", b.ring(2, 1, NONE), 0);
         Due.is("the last one", b.ring(0, 1, 1), 1);
     }

@@ -1,3 +1,7 @@
+import java.util.ArrayDeque;
+import java.util.Arrays;
+import java.util.Random;
+
 /** Promises 28 to 51: what is there, and texts. */
 final class QuestionSentences {
     private static final int NONE = Layerboard.NONE;
@@ -63,6 +67,7 @@ final class QuestionSentences {
     private static void tellPicture(Doc d) {
         d.in("way");
         d.test(QuestionSentences::ways, "Returns how many bends the way");
+        d.test(QuestionSentences::waysRoundWalls, "Returns how many bends the way");
         d.test(QuestionSentences::withoutAWay, "NONE without a way.");
         d.refusals("way", Due.INDEX);
         d.in("cell");
@@ -70,9 +75,11 @@ final class QuestionSentences {
         d.refusals("cell", Due.INDEX);
         d.in("row");
         d.test(QuestionSentences::rows, "Returns the sum of the colours of a row");
+        d.test(QuestionSentences::rowsOfCells, "Returns the sum of the colours of a row");
         d.refusals("row", Due.INDEX);
         d.in("field");
         d.test(QuestionSentences::fields, "Returns how many cells the field of a cell has.");
+        d.test(QuestionSentences::fieldsOfCells, "Returns how many cells the field of a cell has.");
         d.refusals("field", Due.INDEX);
         d.in("changes");
         d.test(QuestionSentences::countsChanges, "Returns how many changes were made");
@@ -491,6 +498,73 @@ final class QuestionSentences {
         Due.is("no change", b.changes(), 4);
     }
 
+    /** The bends times 10000, and the steps, of the best way, looked for step by step; NONE without one. */
+    private static int wayOf(Layerboard b, int one, int other) {
+        int[] best = new int[61 * 61 * 4];
+        Arrays.fill(best, Integer.MAX_VALUE);
+        ArrayDeque<Integer> open = new ArrayDeque<>();
+        int from = 61 * b.of(one, 11) + b.of(one, 10);
+        int to = 61 * b.of(other, 11) + b.of(other, 10);
+        if (!isFree(b, from % 61, from / 61, one, other) || !isFree(b, to % 61, to / 61, one, other)) {
+            return NONE;
+        }
+        for (int d = 0; d < 4; d++) {
+            best[4 * from + d] = 0;
+            open.add(4 * from + d);
+        }
+        while (!open.isEmpty()) {
+            int at = open.remove();
+            for (int d = 0; d < 4; d++) {
+                int x = at / 4 % 61 + new int[] {1, -1, 0, 0}[d];
+                int y = at / 4 / 61 + new int[] {0, 0, 1, -1}[d];
+                int cost = best[at] + (d == at % 4 ? 1 : 10001);
+                if (x >= 0 && x <= 60 && y >= 0 && y <= 60 && cost < best[4 * (61 * y + x) + d]
+                        && isFree(b, x, y, one, other)) {
+                    best[4 * (61 * y + x) + d] = cost;
+                    open.add(4 * (61 * y + x) + d);
+                }
+            }
+        }
+        int least = Arrays.stream(best, 4 * to, 4 * to + 4).min().getAsInt();
+        return least == Integer.MAX_VALUE ? NONE : least;
+    }
+
+    private static boolean isFree(Layerboard b, int x, int y, int one, int other) {
+        long seen = b.caught(0, 0, 60, 60, true);
+        for (int i = 0; i < b.changes(); i++) {
+            if (i != one && i != other && (seen >> i & 1) == 1 && b.holds(i, 2 * x, 2 * y)) {
+                return false;
+            }
+        }
+        return true;
+    }
+
+    /** Walls at random, and leaning ones; of ways that begin across, and up, the shorter ones count. */
+    private static void waysRoundWalls() {
+        for (int seed = 0; seed < 24; seed++) {
+            Random random = new Random(seed);
+            Layerboard b = seed % 4 == 0 ? leaningEdges(seed) : new Layerboard();
+            int many = 8 + random.nextInt(20);
+            for (int i = 0; i < many; i++) {
+                int length = 5 + random.nextInt(30);
+                int across = random.nextInt(60);
+                int along = random.nextInt(60 - length);
+                if (i % 2 == 0) {
+                    b.box(0, 0, 1, across, along, 1, length);
+                } else {
+                    b.box(0, 0, 1, along, across, length, 1);
+                }
+            }
+            for (int i = 0; i < 6; i++) {
+                int one = b.shapeAt(random.nextInt(many));
+                int other = b.shapeAt(random.nextInt(many));
+                int want = wayOf(b, one, other);
+                Due.is("bends", b.way(one, other, false), want == NONE ? NONE : want / 10000);
+                Due.is("steps", b.way(one, other, true), want == NONE ? NONE : want % 10000);
+            }
+        }
+    }
+
     private static void withoutAWay() {
         Layerboard b = new Layerboard();
         b.box(0, 0, 1, 10, 10, 1, 1);
@@ -554,6 +628,68 @@ final class QuestionSentences {
         b.box(0, 1, 3, 0, 30, 60, 1);
         Due.is("cut by another one", b.field(10, 0), 5 * 30 + 25);
         Due.is("above it", b.field(10, 59), 5 * 29);
+    }
+
+    /** Leaning edges in all directions, so that the middles of cells lie on them, and beside them. */
+    private static Layerboard leaningEdges(int seed) {
+        Layerboard b = new Layerboard();
+        b.diamond(0, 0, 1, 12, 12, 12);
+        Due.draws(b, 20, 20, 40, 30, 30, 50, 10, 40);
+        b.paint(0, 1, 2);
+        b.toLayer(0, 1, 1);
+        Due.draws(b, 60, 60, 20, 40, 40, 0, 60, 40);
+        b.paint(0, 4, 3);
+        Due.draws(b, 30, 60, 50, 40, 59, 49, 49, 59, 48, 60);
+        b.join(0, 3, 1, 4);
+        b.sample(1, seed, 6);
+        return b;
+    }
+
+    private static void rowsOfCells() {
+        for (int seed = 0; seed < 8; seed++) {
+            Layerboard b = leaningEdges(seed);
+            for (int y = 0; y < 60; y++) {
+                int sum = 0;
+                for (int x = 0; x < 60; x++) {
+                    int shape = b.hit(2 * x + 1, 2 * y + 1);
+                    int colour = shape == NONE ? 0 : b.of(shape, 1);
+                    Due.is("a cell", b.cell(x, y), colour);
+                    sum += colour * (x + 1);
+                }
+                Due.is("row " + y, b.row(y), sum);
+            }
+        }
+    }
+
+    private static int fieldOf(Layerboard b, int x, int y) {
+        boolean[] isTaken = new boolean[3600];
+        int[] cells = new int[3600];
+        cells[0] = 60 * y + x;
+        isTaken[cells[0]] = true;
+        int many = 1;
+        for (int i = 0; i < many; i++) {
+            for (int step = 0; step < 4; step++) {
+                int nextX = cells[i] % 60 + new int[] {1, -1, 0, 0}[step];
+                int nextY = cells[i] / 60 + new int[] {0, 0, 1, -1}[step];
+                if (nextX >= 0 && nextX < 60 && nextY >= 0 && nextY < 60 && !isTaken[60 * nextY + nextX]
+                        && b.cell(nextX, nextY) == b.cell(x, y)) {
+                    isTaken[60 * nextY + nextX] = true;
+                    cells[many] = 60 * nextY + nextX;
+                    many++;
+                }
+            }
+        }
+        return many;
+    }
+
+    private static void fieldsOfCells() {
+        for (int seed = 0; seed < 3; seed++) {
+            Layerboard b = leaningEdges(seed);
+            for (int at = 0; at < 60; at += 4) {
+                Due.is("a field", b.field(at, at), fieldOf(b, at, at));
+                Due.is("a field", b.field(59 - at, at), fieldOf(b, 59 - at, at));
+            }
+        }
     }
 
     private static void countsChanges() {

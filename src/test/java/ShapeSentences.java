@@ -16,6 +16,7 @@ final class ShapeSentences {
         d.test(ShapeSentences::pointsBesideLeaningEdges, "A polygon holds a point");
         d.test(ShapeSentences::pointsAtTheHeightOfCorners, "A polygon holds a point");
         d.test(ShapeSentences::oneToFourPolygons, "A shape has 1 to 4 polygons");
+        d.test(ShapeSentences::fourTimesEightCorners, "A shape has 1 to 4 polygons");
         d.test(ShapeSentences::tableOfSets, "A shape has 1 to 4 polygons");
         d.test(ShapeSentences::tableOfOne, "A shape of one polygon that is drawn");
         d.test(ShapeSentences::frameOfAllCorners, "The frame of a shape is");
@@ -247,6 +248,47 @@ final class ShapeSentences {
         Due.fails("4", Due.INDEX, () -> b.corners(4, 4));
     }
 
+    /** What all calls do with a shape that has as many corners as may be. */
+    private static void fourTimesEightCorners() {
+        int[] row = {6, 0, 10, 2, 12, 6, 10, 10, 6, 12, 2, 10, 0, 6, 2, 2};
+        Layerboard b = new Layerboard();
+        for (int i = 0; i < 4; i++) {
+            int[] moved = row.clone();
+            for (int k = 0; k < 16; k++) {
+                moved[k] += 14 * (k % 2 == 0 ? i % 2 : i / 2);
+            }
+            Due.draws(b, moved);
+        }
+        int all = b.join(0, 0, b.join(0, 0, 0, 1), b.join(0, 0, 2, 3));
+        Due.is("area", b.area(all, false), 384);
+        Due.is("meetings with itself", b.meetings(all, all), 32);
+        Due.is("caught", b.caught(14, 14, 12, 12, false) >> all & 1, 1);
+        b.move(0, all, 1, 2, true);
+        b.turn(0, all, 1);
+        Due.is("corners mirrored", b.mirror(0, all, true), 32);
+        b.grow(0, all, 2);
+        b.paint(0, all, 3);
+        for (int i = 0; i < 4; i++) {
+            for (int k = 0; k < 8; k++) {
+                // turned, (x, y) is (26 - y, x), and mirrored (y, x)
+                int x = row[2 * k] + 14 * (i % 2);
+                int y = row[2 * k + 1] + 14 * (i / 2);
+                Due.is("x", b.corner(all, i, k, false), 1 + 2 * y);
+                Due.is("y", b.corner(all, i, k, true), 2 + 2 * x);
+            }
+        }
+        Due.is("right", b.of(all, 12), 53);
+        Due.is("upper", b.of(all, 13), 54);
+        Due.is("four times the area", b.area(all, false), 4 * 384);
+        Due.is("a point", b.hit(2 * 40, 2 * 41), all);
+        Due.is("a cell", b.cell(40, 41), 3);
+        Due.is("a field", b.field(40, 41), 384);
+        b.erase(0, 0);
+        Due.is("a row", b.row(54 - 24) > 0, true);
+        Due.is("a way to it", b.way(1, all, true), 13 + 2);
+        Due.is("sound", b.isSound(), true);
+    }
+
     /** Four boxes so that each set of them has a place: bits 0 and 1 by x, bits 2 and 3 by y. */
     private static void tableOfSets() {
         Layerboard b = new Layerboard();
@@ -295,10 +337,15 @@ final class ShapeSentences {
             Due.is("less: with all corners, side " + i, b.of(2, 10 + i), both[i]);
             Due.is("of what holds nothing, side " + i, b.of(3, 10 + i), both[i]);
         }
+        b.diamond(0, 0, 1, 8, 30, 3);
+        b.join(0, 0, 0, 4);
+        Due.is("the first corner of the second polygon is the leftmost", b.of(5, 10), 5);
+        b.join(0, 0, 4, 0);
+        Due.is("the first corner of the first polygon is the leftmost", b.of(6, 10), 5);
         Due.draws(b, 7, 9, 12, 9, 9, 9);
-        Due.is("of a flat one, lower", b.of(4, 11), 9);
-        Due.is("of a flat one, upper", b.of(4, 13), 9);
-        Due.is("of a flat one, right", b.of(4, 12), 12);
+        Due.is("of a flat one, lower", b.of(7, 11), 9);
+        Due.is("of a flat one, upper", b.of(7, 13), 9);
+        Due.is("of a flat one, right", b.of(7, 12), 12);
     }
 
     private static void areaOfAllPoints() {
@@ -471,6 +518,7 @@ final class ShapeSentences {
     /** Two shapes by turns go one up, each between the other one and the one with the key 4. */
     private static void anewOneUp() {
         Layerboard b = layerOf(5);
+        orderIs("at first", b, 0, 1, 2, 3, 4);
         b.erase(0, 2);
         for (int i = 0; i < 50; i++) {
             Due.is("one up", b.raise(0, i % 2, 0), 1);

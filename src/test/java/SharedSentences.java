@@ -289,7 +289,7 @@ final class SharedSentences {
         int one = random.nextInt(20);
         int other = random.nextInt(20);
         int lot = random.nextInt(4);
-        return switch (random.nextInt(14)) {
+        return switch (random.nextInt(15)) {
             case 0, 1, 2 -> new Call("box", hand, lot % 3, lot + 1, one, other, 1 + one / 2, 1 + other / 2);
             case 3 -> new Call("diamond", hand, lot % 3, lot + 1, one + 20, other + 20, 1 + one / 2);
             case 4 -> new Call("erase", hand, one);
@@ -300,6 +300,7 @@ final class SharedSentences {
             case 10 -> new Call("tie", hand, one, other, lot % 3);
             case 11 -> new Call("gather", hand, 1L << one | 1L << other);
             case 12 -> new Call("join", hand, lot, one, other);
+            case 13 -> new Call("show", hand, lot % 3, one % 3 > 0);
             default -> new Call("grow", hand, one, 2);
         };
     }
@@ -455,6 +456,14 @@ final class SharedSentences {
         Due.is("stands no more", b.stands(0), false);
         Due.is("still not", b.stands(1), false);
         Due.fails("none of it is left", Due.STATE, () -> b.undo(0));
+        for (int layer = 0; layer < 4; layer++) {
+            int shape = b.box(0, layer, 1, 0, 0, 1, 1);
+            b.show(2, layer, false);
+            Due.is("not visible", b.hit(0, 0), NONE);
+            b.undo(2);
+            Due.is("visible, when that stands no more", b.hit(0, 0), shape);
+            b.undo(0);
+        }
     }
 
     private static void cornersAsTheyWere() {

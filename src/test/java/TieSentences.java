@@ -13,6 +13,7 @@ final class TieSentences {
         d.test(TieSentences::leadersOfLeaders, "Each other shape whose leader moves");
         d.test(TieSentences::noCornerLeaves, "If a corner would come to an x or y");
         d.test(TieSentences::noFollowerLeaves, "If a corner would come to an x or y");
+        d.test(TieSentences::noErasedOneLeaves, "If a corner would come to an x or y");
         d.in("4 Groups");
         d.test(TieSentences::membersAreShapesOrGroups, "A group has members", "A shape belongs to a group");
         d.test(TieSentences::outermost, "Its outermost group is that");
@@ -131,6 +132,11 @@ final class TieSentences {
         Due.fails("none to be untied from", Due.STATE, () -> b.untie(0, 1));
         b.erase(0, 3);
         Due.is("a shape that followed is erased: its leader stays", b.shapes(), 0b0110);
+        Layerboard c = boxes(2);
+        c.tie(0, 0, 1, 2);
+        Due.is("the one with the number 0 followed", c.erase(0, 1), 1);
+        Due.is("no leader", c.of(0, 2), NONE);
+        Due.is("no kind", c.of(0, 3), NONE);
     }
 
     private static void movedOnce() {
@@ -206,6 +212,22 @@ final class TieSentences {
             }
             Due.is("what could move has not", b.of(0, 11), kind == 1 ? 22 : 21);
         }
+    }
+
+    /** A shape that is erased stays behind, and is in the way of nothing. */
+    private static void noErasedOneLeaves() {
+        Layerboard b = new Layerboard();
+        b.box(0, 0, 1, 10, 10, 4, 4);
+        b.box(0, 0, 1, 56, 56, 4, 4);
+        b.box(0, 0, 1, 50, 50, 10, 10);
+        b.tie(0, 1, 0, 0);
+        b.gather(0, 0b101);
+        Due.fails("one at the edge follows", Due.STATE, () -> b.move(0, 0, 1, 1, true));
+        b.erase(0, 1);
+        Due.is("none follows any more", b.move(0, 0, 1, 1, true), 1);
+        Due.fails("one at the edge is in its group", Due.STATE, () -> b.move(0, 0, 1, 1, false));
+        b.erase(0, 2);
+        Due.is("none is in its group any more", b.move(0, 0, 1, 1, false), 1);
     }
 
     // ---- 4 groups
@@ -360,6 +382,10 @@ final class TieSentences {
         Layerboard e = row(0, 2, 10, 4, 10, 2, 40, 2);
         e.spread(0, 2);
         leftsAre("between them, by numbers as well", e, 0, 13, 28, 40);
+        Layerboard f = row(50, 4, 40, 3, 9, 2, 31, 5, 20, 6, 0, 4);
+        // from 4 to 50 there are 46, less 2, 6, 5 and 3: gaps of 6
+        Due.is("from the last to the first one", f.spread(0, 3), 4);
+        leftsAre("from the last to the first one", f, 50, 41, 10, 30, 18, 0);
     }
 
     private static void gapsAllTheSame() {
@@ -480,6 +506,19 @@ final class TieSentences {
         pullIs("the right or upper side", 30, 4, 54);
         pullIs("just at one", 30, 0, 50);
         pullIs("none", 30, 0);
+        Layerboard b = new Layerboard();
+        Due.draws(b, 0, 10, 0, 30, 0, 20);
+        b.guide(0, true, 1);
+        Due.is("an upright line at 0", b.snap(0, 0), 1);
+        placeIs("an upright line at 0", b, 0, 1, 10);
+        Due.draws(b, 10, 0, 30, 0, 20, 0);
+        b.guide(0, false, 2);
+        Due.is("a level line at 0", b.snap(0, 3), 2);
+        placeIs("a level line at 0", b, 3, 10, 2);
+        Due.draws(b, 60, 40, 60, 60, 60, 50);
+        b.guide(0, true, 57);
+        Due.is("an upright line at 60", b.snap(0, 6), 3);
+        placeIs("an upright line at 60", b, 6, 57, 40);
     }
 
     private static void wholeMiddleOnly() {
