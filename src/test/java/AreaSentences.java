@@ -36,6 +36,7 @@ final class AreaSentences {
         d.test(AreaSentences::neitherVisible, "(These two need not be visible");
         d.test(AreaSentences::noSteps, "a way from a point to itself");
         d.test(AreaSentences::fewestBendsFirst, "Of all ways one with the fewest bends");
+        d.test(AreaSentences::thenFewestSteps, "Of all ways one with the fewest bends");
         d.in("8 Texts");
         d.test(AreaSentences::eightySigns, "The tape has at most 80 signs");
         d.test(AreaSentences::signs, "The tape has at most 80 signs");
@@ -45,10 +46,14 @@ final class AreaSentences {
         d.test(AreaSentences::firstWrongSign, "Its fault is the place");
         d.test(AreaSentences::tooShort, "its length, if there is none");
         d.test(AreaSentences::noFault, "NONE, if it is.");
-        d.test(AreaSentences::papers, "(What edges must be like does not count.)", "The paper of a shape is", "between polygons");
+        d.test(AreaSentences::edgesDoNotCount, "(What edges must be like does not count.)");
+        d.test(AreaSentences::papers, "The paper of a shape is", "between polygons");
         d.test(AreaSentences::toldLast, "the out has the paper told last.");
-        d.test(AreaSentences::allIsSound, "All is sound, if all corners", "keys of a layer are unlike", "there is no ring of ties",
-                "members of groups are", "and of each two shapes");
+        d.test(() -> allBoards(AreaSentences::cornersAndTables), "All is sound, if all corners");
+        d.test(() -> allBoards(AreaSentences::keysOfLayers), "keys of a layer are unlike");
+        d.test(() -> allBoards(AreaSentences::leadersAreThere), "there is no ring of ties");
+        d.test(() -> allBoards(AreaSentences::groupsAreApart), "members of groups are");
+        d.test(() -> allBoards(AreaSentences::areasOfNeighbours), "and of each two shapes");
         d.test(() -> Due.is("NONE", Layerboard.NONE, -1), "The constants: `NONE = -1`");
     }
 
@@ -285,7 +290,8 @@ final class AreaSentences {
                     rectangle(b, 10, 10, 1, 1, turned % 2 == 1);
                     rectangle(b, 10 + dx, 10 + dy, 1, 1, turned / 2 == 1);
                     boolean isNear = Math.abs(dx) < 2 && Math.abs(dy) < 2;
-                    Due.is(dx + " and " + dy + " beside it", b.meetings(0, 1), isNear ? due[Math.abs(dx) + Math.abs(dy)] : 0);
+                    int want = isNear ? due[Math.abs(dx) + Math.abs(dy)] : 0;
+                    Due.is(dx + " and " + dy + " beside it", b.meetings(0, 1), want);
                 }
             }
         }
@@ -679,6 +685,22 @@ final class AreaSentences {
         wayIs("the same", c, 0, 1, 2, 26);
     }
 
+    /**
+     * From (5, 1) to (1, 5) there are two kinds of ways with three bends: up, to the left, up, to the left by 8
+     * steps, and to the right, up, to the left, down around all, by 22. The board is held mirrored as well.
+     */
+    private static void thenFewestSteps() {
+        int[][] boxes = {{5, 1, 1, 1}, {1, 5, 1, 1}, {1, 3, 1, 2}, {6, 6, 1, 3}, {0, 2, 4, 1}, {4, 6, 4, 1}, {3, 5, 3, 1}};
+        Layerboard b = new Layerboard();
+        Layerboard mirrored = new Layerboard();
+        for (int[] r : boxes) {
+            b.box(0, 0, 1, r[0], r[1], r[2], r[3]);
+            mirrored.box(0, 0, 1, r[1], r[0], r[3], r[2]);
+        }
+        wayIs("the short one", b, 0, 1, 3, 8);
+        wayIs("the short one, mirrored", mirrored, 0, 1, 3, 8);
+    }
+
     // ---- 8 texts
 
     private static void eightySigns() {
@@ -788,11 +810,17 @@ final class AreaSentences {
         faultIs("(9,9)(59,59)(60,60)(0,0)(1,1)(10,10)(19,19)(20,20)", NONE);
     }
 
+    private static void edgesDoNotCount() {
+        for (String text : new String[] {"(0,0)(3,1)(0,5)", "(0,0)(0,0)(0,0)", "(1,2)(60,59)(7,7)(7,7)"}) {
+            Layerboard b = new Layerboard();
+            Due.types(b, text);
+            Due.is("edges that may not be are no fault", b.fault(), NONE);
+            Due.fails("but are not drawn", Due.STATE, () -> b.trace(0, 0, 1));
+        }
+    }
+
     private static void papers() {
         Layerboard b = new Layerboard();
-        Due.types(b, "(0,0)(3,1)(0,5)");
-        Due.is("edges that may not be are no fault", b.fault(), NONE);
-        Due.fails("but are not drawn", Due.STATE, () -> b.trace(0, 0, 1));
         Due.draws(b, 0, 9, 10, 9, 10, 59, 10, 60, 0, 60);
         Due.paperIs("numbers of one digit, and of two", b, 0, "(0,9)(10,9)(10,59)(10,60)(0,60)");
         b.box(0, 0, 1, 0, 0, 1, 1);
@@ -823,9 +851,13 @@ final class AreaSentences {
         Due.is("it stays", b.out(19), ')');
     }
 
-    /** Boards with all that is asked of: joined, turned, tied and gathered shapes with keys that are fractions. */
-    private static void allIsSound() {
-        for (int seed = 0; seed < 30; seed++) {
+    private interface Look {
+        void at(Layerboard b);
+    }
+
+    /** Boards with joined, turned, tied and gathered shapes, with keys that are fractions, some of it taken back. */
+    private static void allBoards(Look look) {
+        for (int seed = 0; seed < 20; seed++) {
             Layerboard b = new Layerboard();
             b.sample(0, 977 * seed, 6);
             b.sample(1, 977 * seed + 1, 6);
@@ -837,11 +869,99 @@ final class AreaSentences {
             b.mirror(0, 3, true);
             b.join(0, 3, 12, 15);
             b.gather(0, 0b0101);
-            b.gather(0, 0b0011);
-            Due.is("sound", b.isSound(), true);
+            b.gather(1, 0b0011);
+            lookTwice(look, b);
+            b.erase(1, 5);
+            lookTwice(look, b);
+            b.undo(1);
             b.undo(1);
             b.undo(2);
-            Due.is("sound, when some is taken back", b.isSound(), true);
+            b.undo(0);
+            lookTwice(look, b);
+        }
+    }
+
+    private static void lookTwice(Look look, Layerboard b) {
+        look.at(b);
+        Due.is("sound", b.isSound(), true);
+    }
+
+    private static void cornersAndTables(Layerboard b) {
+        for (int place = 0; place < Long.bitCount(b.shapes()); place++) {
+            int shape = b.shapeAt(place);
+            int polygons = b.of(shape, 5);
+            Due.is("the table's bits", b.of(shape, 6) >> (1 << polygons), 0);
+            for (int p = 0; p < polygons; p++) {
+                int many = b.corners(shape, p);
+                for (int c = 0; c < many; c++) {
+                    int x = b.corner(shape, p, c, false);
+                    int y = b.corner(shape, p, c, true);
+                    int wide = Math.abs(b.corner(shape, p, (c + 1) % many, false) - x);
+                    int high = Math.abs(b.corner(shape, p, (c + 1) % many, true) - y);
+                    Due.is("a corner on the board", x >= 0 && x <= 60 && y >= 0 && y <= 60, true);
+                    Due.is("an edge as it may go", wide + high > 0 && (wide * high == 0 || wide == high
+                            || wide == 2 * high || high == 2 * wide), true);
+                }
+            }
+        }
+    }
+
+    private static void keysOfLayers(Layerboard b) {
+        for (int place = 0; place < Long.bitCount(b.shapes()); place++) {
+            int shape = b.shapeAt(place);
+            Due.is("positive", b.of(shape, 7) > 0, true);
+            Due.is("a denominator to 50", b.of(shape, 8) > 0 && b.of(shape, 8) <= 50, true);
+            int before = place == 0 ? shape : b.shapeAt(place - 1);
+            if (before != shape && b.of(before, 0) == b.of(shape, 0)) {
+                Due.is("unlike", b.of(before, 7) * b.of(shape, 8) < b.of(shape, 7) * b.of(before, 8), true);
+            }
+        }
+    }
+
+    private static void leadersAreThere(Layerboard b) {
+        for (int place = 0; place < Long.bitCount(b.shapes()); place++) {
+            int at = b.shapeAt(place);
+            for (int i = 0; i < 60 && at != NONE; i++) {
+                Due.is("it is there", b.shapes() >> at & 1, 1);
+                at = b.of(at, 2);
+            }
+            Due.is("its leaders come to an end", at, NONE);
+        }
+    }
+
+    /** Scattering the outermost group of a shape comes to an end, and each group is scattered once. */
+    private static void groupsAreApart(Layerboard b) {
+        long scattered = 0;
+        int many = 0;
+        for (int place = 0; place < Long.bitCount(b.shapes()); place++) {
+            int shape = b.shapeAt(place);
+            while (b.of(shape, 4) != NONE && many < 5) {
+                int group = b.of(shape, 4);
+                Due.is("not yet scattered", scattered >> group & 1, 0);
+                Due.is("a group, no shape", b.shapes() >> group & 1, 0);
+                scattered |= 1L << group;
+                b.scatter(2, shape);
+                many++;
+            }
+        }
+        for (int i = 0; i < many; i++) {
+            b.undo(2);
+        }
+        Due.is("two groups at most", many <= 2, true);
+    }
+
+    private static long units(Layerboard b, int how, int one, int other) {
+        return 14400L / b.areaOf(how, one, other, true) * b.areaOf(how, one, other, false);
+    }
+
+    private static void areasOfNeighbours(Layerboard b) {
+        for (int place = 1; place < Long.bitCount(b.shapes()); place++) {
+            int one = b.shapeAt(place - 1);
+            int other = b.shapeAt(place);
+            long area = 14400L / b.area(one, true) * b.area(one, false);
+            long next = 14400L / b.area(other, true) * b.area(other, false);
+            Due.is("together and in common", units(b, 0, one, other) + units(b, 1, one, other), area + next);
+            Due.is("less and in common", units(b, 2, one, other) + units(b, 1, one, other), area);
         }
     }
 

@@ -34,7 +34,9 @@ final class ChangeSentences {
         d.test(ChangeSentences::samplesInOrder, "Of each, in this order", "a lot of 4, the layer", "a lot of 9 and 1",
                 "a lot of 40, x", "a lot of 40, y", "a lot of 10 and 1");
         d.test(ChangeSentences::samplesOfAllKinds, "The kind 0", "1: a box", "2: a diamond", "3: a polygon");
-        d.test(ChangeSentences::seedsAndMany, "`seed`", "`many`");
+        d.test(ChangeSentences::seeds, "`seed`");
+        d.test(ChangeSentences::many, "`many`");
+        d.test(ChangeSentences::notSoMany, "Throws `IllegalStateException`");
         d.refusals("sample", Due.INDEX, Due.ARGUMENT, Due.STATE);
         d.in("erase");
         d.test(ChangeSentences::erases, "Erases a shape.", "Returns how many shapes followed it.");
@@ -43,20 +45,23 @@ final class ChangeSentences {
 
     private static void tellChanging(Doc d) {
         d.in("move");
-        d.test(ChangeSentences::moves, "Moves a shape, or what goes", "`alone`", "Returns how many shapes have come elsewhere");
-        d.test(ChangeSentences::movesAcrossTheBoard, "`dx`", "`dy`");
+        d.test(ChangeSentences::moves, "Moves a shape, or what goes", "`alone`", "Returns how many shapes have come");
+        d.test(ChangeSentences::dx, "`dx`");
+        d.test(ChangeSentences::dy, "`dy`");
         d.refusals("move", Due.INDEX, Due.ARGUMENT, Due.STATE);
         d.in("turn");
         d.test(ChangeSentences::turns, "Turns a shape by quarters", "its frame has the same left", "Returns the right");
         d.test(ChangeSentences::turnsAlone, "Nothing follows.");
-        d.test(ChangeSentences::turnsByQuarters, "`quarters`", "Throws `IllegalStateException`");
+        d.test(() -> Clauses.holdArgument("turn", 2), "`quarters`");
+        d.test(ChangeSentences::turnsByQuarters, "Throws `IllegalStateException`");
         d.refusals("turn", Due.INDEX, Due.ARGUMENT, Due.STATE);
         d.in("mirror");
         d.test(ChangeSentences::mirrors, "Mirrors a shape", "`upright`", "Returns how many corners");
         d.test(ChangeSentences::mirrorsAlone, "Nothing follows.");
         d.refusals("mirror", Due.INDEX, Due.STATE);
         d.in("grow");
-        d.test(ChangeSentences::grows, "Makes a shape so many times", "its frame has the same left", "`times`", "Returns the right");
+        d.test(ChangeSentences::grows, "Makes a shape so many times", "its frame has the same left", "Returns the right");
+        d.test(() -> Clauses.holdArgument("grow", 2), "`times`");
         d.test(ChangeSentences::growsAlone, "Nothing follows.");
         d.test(ChangeSentences::growsToTheEdge, "Throws `IllegalStateException`");
         d.refusals("grow", Due.INDEX, Due.ARGUMENT, Due.STATE);
@@ -64,7 +69,8 @@ final class ChangeSentences {
         d.test(ChangeSentences::paints, "Gives a shape another colour.", "Returns the colour before.");
         d.refusals("paint", Due.INDEX, Due.ARGUMENT, Due.STATE);
         d.in("raise");
-        d.test(ChangeSentences::raises, "Puts a shape elsewhere", "`how`", "Returns how many shapes of the layer");
+        d.test(ChangeSentences::raises, "Puts a shape elsewhere", "Returns how many shapes of the layer");
+        d.test(() -> Clauses.holdArgument("raise", 2), "`how`");
         d.refusals("raise", Due.INDEX, Due.ARGUMENT, Due.STATE);
         d.in("toLayer");
         d.test(ChangeSentences::putsIntoLayers, "Puts a shape into a layer", "Returns the layer before.");
@@ -76,13 +82,15 @@ final class ChangeSentences {
 
     private static void tellTying(Doc d) {
         d.in("tie");
-        d.test(ChangeSentences::ties, "Lets a shape follow", "`kind`", "Returns how many shapes the leader");
+        d.test(ChangeSentences::ties, "Lets a shape follow", "Returns how many shapes the leader");
+        d.test(() -> Clauses.holdArgument("tie", 3), "`kind`");
         d.refusals("tie", Due.INDEX, Due.ARGUMENT, Due.STATE);
         d.in("untie");
         d.test(ChangeSentences::unties, "Lets a shape follow none.", "Returns its leader before.");
         d.refusals("untie", Due.INDEX, Due.STATE);
         d.in("ring");
-        d.test(ChangeSentences::tellsRings, "Tells the ring", "`place`", "from 0 on", "Returns as told");
+        d.test(ChangeSentences::tellsRings, "Tells the ring", "from 0 on", "Returns as told");
+        d.test(ChangeSentences::countsRings, "`place`");
         d.test(ChangeSentences::leadersOfNowCount, "the leaders that it has by now");
         d.test(ChangeSentences::bothTheSame, "1 for how many");
         d.test(ChangeSentences::placesOfRings, "or no such place (but NONE)");
@@ -95,7 +103,8 @@ final class ChangeSentences {
 
     private static void tellGathering(Doc d) {
         d.in("gather");
-        d.test(ChangeSentences::gathers, "Gathers shapes into a group.", "`shapes`: a set", "Returns its number.");
+        d.test(ChangeSentences::gathers, "Gathers shapes into a group.", "Returns its number.");
+        d.test(() -> Clauses.holdArgument("gather", 1), "`shapes`: a set");
         d.refusals("gather", Due.INDEX, Due.STATE);
         d.in("scatter");
         d.test(ChangeSentences::scatters, "Scatters the outermost group");
@@ -105,7 +114,8 @@ final class ChangeSentences {
         d.test(ChangeSentences::spreads, "Spreads what goes together", "Returns how many shapes have moved.");
         d.refusals("spread", Due.INDEX, Due.STATE);
         d.in("guide");
-        d.test(ChangeSentences::putsUpGuides, "Puts up a guide.", "`at`", "Returns how many there are then.");
+        d.test(ChangeSentences::putsUpGuides, "Puts up a guide.", "Returns how many there are then.");
+        d.test(() -> Clauses.holdArgument("guide", 2), "`at`");
         d.refusals("guide", Due.INDEX, Due.ARGUMENT, Due.STATE);
         d.in("snap");
         d.test(ChangeSentences::snaps, "Snaps what goes together", "Returns by how much it has moved");
@@ -293,21 +303,28 @@ final class ChangeSentences {
         Due.is("all four kinds", kinds, 15);
     }
 
-    private static void seedsAndMany() {
-        for (int many = 0; many <= 7; many++) {
-            int m = many;
-            for (int seed : new int[] {0, 65535}) {
-                Layerboard b = new Layerboard();
-                if (many >= 1 && many <= 6) {
-                    Due.is("many " + many, b.sample(0, seed, many), many - 1);
-                } else {
-                    Due.fails("many " + many, Due.ARGUMENT, () -> b.sample(0, seed, m));
-                }
-            }
-        }
+    private static void seeds() {
         Layerboard b = new Layerboard();
         Due.fails("seed -1", Due.ARGUMENT, () -> b.sample(0, -1, 1));
         Due.fails("seed 65536", Due.ARGUMENT, () -> b.sample(0, 65536, 1));
+        Due.is("seed 0", b.sample(0, 0, 1), 0);
+        Due.is("seed 65535", b.sample(0, 65535, 1), 1);
+    }
+
+    private static void many() {
+        for (int many = 0; many <= 7; many++) {
+            int m = many;
+            Layerboard b = new Layerboard();
+            if (many >= 1 && many <= 6) {
+                Due.is("many " + many, b.sample(0, 5, many), many - 1);
+            } else {
+                Due.fails("many " + many, Due.ARGUMENT, () -> b.sample(0, 5, m));
+            }
+            Due.is("changes", b.changes(), many % 7);
+        }
+    }
+
+    private static void notSoMany() {
         for (int many = 1; many <= 6; many++) {
             int m = many;
             Layerboard just = Due.fillTo(new Layerboard(), 60 - many);
@@ -359,22 +376,26 @@ final class ChangeSentences {
         Due.is("it is a change", b.undo(1), 8);
     }
 
-    private static void movesAcrossTheBoard() {
+    private static void dx() {
+        Layerboard b = new Layerboard();
+        Due.draws(b, 0, 0, 0, 60, 0, 30);
+        Due.is("60 to the right", b.move(0, 0, 60, 0, true), 1);
+        placeIs("60 to the right", b, 0, 60, 0);
+        Due.is("60 to the left", b.move(0, 0, -60, 0, true), 1);
+        placeIs("60 to the left", b, 0, 0, 0);
+        Due.fails("61", Due.ARGUMENT, () -> b.move(0, 0, 61, 0, true));
+        Due.fails("-61", Due.ARGUMENT, () -> b.move(0, 0, -61, 0, true));
+    }
+
+    private static void dy() {
         Layerboard b = new Layerboard();
         Due.draws(b, 0, 0, 60, 0, 30, 0);
         Due.is("60 up", b.move(0, 0, 0, 60, true), 1);
         placeIs("60 up", b, 0, 0, 60);
         Due.is("60 down", b.move(0, 0, 0, -60, true), 1);
         placeIs("60 down", b, 0, 0, 0);
-        Due.draws(b, 0, 0, 0, 60, 0, 30);
-        Due.is("60 to the right", b.move(0, 3, 60, 0, true), 1);
-        placeIs("60 to the right", b, 3, 60, 0);
-        Due.is("60 to the left", b.move(0, 3, -60, 0, true), 1);
-        placeIs("60 to the left", b, 3, 0, 0);
-        for (int d : new int[] {-61, 61}) {
-            Due.fails("dx " + d, Due.ARGUMENT, () -> b.move(0, 3, d, 0, true));
-            Due.fails("dy " + d, Due.ARGUMENT, () -> b.move(0, 0, 0, d, true));
-        }
+        Due.fails("61", Due.ARGUMENT, () -> b.move(0, 0, 0, 61, true));
+        Due.fails("-61", Due.ARGUMENT, () -> b.move(0, 0, 0, -61, true));
     }
 
     private static void turns() {
@@ -625,14 +646,23 @@ final class ChangeSentences {
         Layerboard b = boxes(5);
         b.tie(0, 1, 0, 0);
         b.tie(0, 3, 1, 0);
-        Due.is("how many", b.ring(0, 3, NONE), 3);
-        Due.is("the shape", b.ring(0, 3, 0), 0);
-        Due.is("its leader to be", b.ring(0, 3, 1), 3);
-        Due.is("the leader of that", b.ring(0, 3, 2), 1);
-        Due.is("none would be", b.ring(3, 0, NONE), 0);
-        Due.is("none, of shapes without ties", b.ring(2, 4, NONE), 0);
+        int[] ring = {0, 3, 1};
+        for (int place = 0; place < 3; place++) {
+            Due.is("the shape, its leader to be, the leader of that", b.ring(0, 3, place), ring[place]);
+        }
         Due.is("nothing is tied by that", b.of(0, 2), NONE);
         Due.is("nor is it a change", b.changes(), 7);
+    }
+
+    private static void countsRings() {
+        Layerboard b = boxes(5);
+        b.tie(0, 1, 0, 0);
+        Due.is("two", b.ring(0, 1, NONE), 2);
+        b.tie(0, 3, 1, 0);
+        Due.is("three", b.ring(0, 3, NONE), 3);
+        Due.is("none would be", b.ring(3, 0, NONE), 0);
+        Due.is("none, by the tie that is there", b.ring(1, 0, NONE), 0);
+        Due.is("none, of shapes without ties", b.ring(2, 4, NONE), 0);
     }
 
     private static void leadersOfNowCount() {

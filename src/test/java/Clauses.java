@@ -1,7 +1,10 @@
 import java.util.LinkedHashMap;
 import java.util.Map;
 
-/** Each method that throws, with a good call on the board of Refusals, its least and greatest values, and all that spoils it. */
+/**
+ * Each method that throws: a good call on the board of Refusals, the least and the greatest values that are
+ * answered, and all that spoils it.
+ */
 final class Clauses {
     private static final Class<?> INDEX = Due.INDEX;
     private static final Class<?> ARGUMENT = Due.ARGUMENT;
@@ -92,7 +95,8 @@ final class Clauses {
     }
 
     private static void addGathering() {
-        add("gather", 0, 0b10001L).hand().full().bad(STATE, 1, 0L, 1L, 0b10000L, 0b011L, 0b111L)
+        add("gather", 0, 0b10001L).hand().answers(1, 0b10111L).answers(1, 0b1000010000L).full()
+                .bad(STATE, 1, 0L, 1L, 0b10000L, 0b011L, 0b111L)
                 .bad(INDEX, 1, 0b11001L, 0b1010001L, 1L << 10 | 0b10001L, 1L << 59 | 0b10001L, 1L << 60 | 0b10001L,
                         1L << 63 | 0b10001L, 1L << 63, 1L << 3, -1L);
         add("scatter", 0, 0).hand().shape(1).full().bad(STATE, 1, 4).board("scattered", b -> b.scatter(0, 0));
@@ -130,7 +134,8 @@ final class Clauses {
         add("area", 0, false).shape(0);
         add("areaOf", 0, 0, 1, false).range(ARGUMENT, 0, 0, 3).answers(0, 1).answers(0, 2).answers(0, 3).shape(1).shape(2);
         add("meetings", 0, 1).shape(0).shape(1).answersAll(0, 0);
-        add("meeting", 0, 4, 0, 0).shape(0).shape(1).range(INDEX, 2, 0, 3).answers(2, 3).range(ARGUMENT, 3, 0, 3).answers(3, 3);
+        add("meeting", 0, 4, 0, 0).shape(0).shape(1).range(INDEX, 2, 0, 3).answers(2, 3)
+                .range(ARGUMENT, 3, 0, 3).answers(3, 3);
         add("way", 0, 1, true).shape(0).shape(1).answersAll(0, 0, false);
     }
 
@@ -139,7 +144,8 @@ final class Clauses {
         add("row", 0).range(INDEX, 0, 0, 59).answers(0, 59);
         add("field", 0, 0).range(INDEX, 0, 0, 59).range(INDEX, 1, 0, 59).answers(0, 59).answers(1, 59);
         add("stands", 0).range(INDEX, 0, 0, 9).answers(0, 9);
-        add("type", 40).range(ARGUMENT, 0, 32, 126).answers(0, 32).answers(0, 126).board("80 signs", b -> Due.types(b, "0".repeat(80)));
+        add("type", 40).range(ARGUMENT, 0, 32, 126).answers(0, 32).answers(0, 126)
+                .board("80 signs", b -> Due.types(b, "0".repeat(80)));
         add("paper", 0).shape(0);
         add("out", 0).range(INDEX, 0, 0, 56).answers(0, 56);
     }
@@ -150,6 +156,10 @@ final class Clauses {
 
     static void hold(String name, Class<?> due) {
         ALL.get(name).hold(due);
+    }
+
+    static void holdArgument(String name, int arg) {
+        ALL.get(name).holdArgument(arg);
     }
 
     static void holdFull(String name) {

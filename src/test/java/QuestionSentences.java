@@ -17,12 +17,14 @@ final class QuestionSentences {
         d.in("shapes");
         d.test(QuestionSentences::shapesThatAreThere, "Returns the shapes that are there.");
         d.in("shapeAt");
-        d.test(QuestionSentences::shapesByOrder, "Returns a shape by the order.", "`place`: from 0, the lowest one");
+        d.test(QuestionSentences::shapesByOrder, "Returns a shape by the order.");
+        d.test(() -> Clauses.holdArgument("shapeAt", 0), "`place`: from 0, the lowest one");
         d.refusals("shapeAt", Due.INDEX);
         d.in("of");
         d.test(QuestionSentences::tellsOfAShape, "Tells something of a shape.", "`what`: 0 its layer", "1 its colour",
                 "9 the hand that made it");
-        d.test(QuestionSentences::tellsLeaders, "2 its leader, NONE without", "3 the kind of its tie, NONE without");
+        d.test(QuestionSentences::tellsLeaders, "2 its leader, NONE without");
+        d.test(QuestionSentences::tellsKinds, "3 the kind of its tie, NONE without");
         d.test(QuestionSentences::tellsGroups, "4 its outermost group, NONE without");
         d.test(QuestionSentences::tellsPolygons, "5 how many polygons it has", "6 its table");
         d.test(QuestionSentences::tellsKeys, "7 the numerator of its key");
@@ -41,7 +43,8 @@ final class QuestionSentences {
         d.test(QuestionSentences::holdsHalves, "Tells whether a shape holds a point, told in halves");
         d.refusals("holds", Due.INDEX, Due.ARGUMENT);
         d.in("hit");
-        d.test(QuestionSentences::hitsTheUppermost, "Returns the uppermost visible shape", "NONE without one.");
+        d.test(QuestionSentences::hitsTheUppermost, "Returns the uppermost visible shape");
+        d.test(QuestionSentences::hitsNone, "NONE without one.");
         d.refusals("hit", Due.ARGUMENT);
         d.in("caught");
         d.test(QuestionSentences::caughtWholly, "Returns the visible shapes that a frame catches");
@@ -50,16 +53,20 @@ final class QuestionSentences {
         d.test(QuestionSentences::framesThatMayBe, "Throws `IllegalArgumentException`");
         d.refusals("caught", Due.ARGUMENT);
         d.in("area");
-        d.test(QuestionSentences::areas, "Returns the area of a shape.", "`below`: false for the numerator");
+        d.test(QuestionSentences::areas, "Returns the area of a shape.");
+        d.test(QuestionSentences::topsAndBottoms, "`below`: false for the numerator");
         d.refusals("area", Due.INDEX);
         d.in("areaOf");
-        d.test(QuestionSentences::areasOfTwo, "Returns the area of what two shapes would make", "`how`", "`below`: likewise");
+        d.test(QuestionSentences::areasOfTwo, "Returns the area of what two shapes would make");
+        d.test(() -> Clauses.holdArgument("areaOf", 0), "`how`");
+        d.test(QuestionSentences::topsAndBottomsOfTwo, "`below`: likewise");
         d.refusals("areaOf", Due.INDEX, Due.ARGUMENT);
         d.in("meetings");
         d.test(QuestionSentences::countsMeetings, "Returns in how many points two shapes meet.");
         d.refusals("meetings", Due.INDEX);
         d.in("meeting");
         d.test(QuestionSentences::tellsMeetings, "Tells a point in which two shapes meet.", "`what`: 0 the numerator of x");
+        d.test(() -> Clauses.holdArgument("meeting", 3), "`what`: 0 the numerator of x");
         d.test(QuestionSentences::placesOfMeetings, "Throws `IndexOutOfBoundsException`");
         d.refusals("meeting", Due.INDEX, Due.ARGUMENT);
     }
@@ -95,7 +102,8 @@ final class QuestionSentences {
         d.in("wipe");
         d.test(QuestionSentences::wipes, "Wipes the tape", "returns how many signs it had.");
         d.in("fault");
-        d.test(QuestionSentences::faults, "Returns the fault of the tape", "NONE if it has none.");
+        d.test(QuestionSentences::faults, "Returns the fault of the tape");
+        d.test(QuestionSentences::noFault, "NONE if it has none.");
         d.in("paper");
         d.test(QuestionSentences::papers, "Tells the paper of a shape into the out.", "Returns how many signs it has.");
         d.refusals("paper", Due.INDEX);
@@ -173,18 +181,29 @@ final class QuestionSentences {
         Layerboard b = new Layerboard();
         b.box(0, 0, 1, 0, 0, 1, 1);
         b.box(0, 0, 1, 0, 0, 1, 1);
-        Due.is("no leader", b.of(1, 2), NONE);
-        Due.is("no kind", b.of(1, 3), NONE);
+        b.box(0, 0, 1, 0, 0, 1, 1);
+        Due.is("none", b.of(2, 2), NONE);
+        b.tie(0, 2, 1, 0);
+        Due.is("its leader", b.of(2, 2), 1);
+        b.tie(0, 2, 0, 0);
+        Due.is("another one, with the number 0", b.of(2, 2), 0);
+        Due.is("the leader has none", b.of(0, 2), NONE);
+        b.erase(0, 0);
+        Due.is("none any more", b.of(2, 2), NONE);
+    }
+
+    private static void tellsKinds() {
+        Layerboard b = new Layerboard();
+        b.box(0, 0, 1, 0, 0, 1, 1);
+        b.box(0, 0, 1, 0, 0, 1, 1);
+        Due.is("none", b.of(1, 3), NONE);
         for (int kind = 0; kind < 3; kind++) {
             b.tie(0, 1, 0, kind);
-            Due.is("leader", b.of(1, 2), 0);
             Due.is("kind", b.of(1, 3), kind);
         }
-        Due.is("the leader has none", b.of(0, 2), NONE);
-        Due.is("the leader has no kind", b.of(0, 3), NONE);
-        b.erase(0, 0);
-        Due.is("no leader any more", b.of(1, 2), NONE);
-        Due.is("no kind any more", b.of(1, 3), NONE);
+        Due.is("the leader has none", b.of(0, 3), NONE);
+        b.untie(0, 1);
+        Due.is("none any more", b.of(1, 3), NONE);
     }
 
     private static void tellsGroups() {
@@ -302,7 +321,6 @@ final class QuestionSentences {
 
     private static void hitsTheUppermost() {
         Layerboard b = new Layerboard();
-        Due.is("none", b.hit(0, 0), NONE);
         b.box(0, 1, 1, 0, 0, 10, 10);
         b.box(0, 1, 1, 5, 5, 10, 10);
         b.box(0, 0, 1, 0, 0, 60, 60);
@@ -311,14 +329,24 @@ final class QuestionSentences {
         Due.is("the lower layer", b.hit(30, 30), 2);
         Due.is("half below that", b.hit(29, 29), 1);
         Due.is("the last point that is held", b.hit(119, 119), 2);
-        Due.is("no shape holds the right edge of the board", b.hit(120, 60), NONE);
-        Due.is("nor its upper edge", b.hit(60, 120), NONE);
         b.raise(0, 0, 2);
         Due.is("another order", b.hit(10, 10), 0);
         b.show(0, 1, false);
         Due.is("visible ones", b.hit(10, 10), 2);
+    }
+
+    private static void hitsNone() {
+        Layerboard b = new Layerboard();
+        Due.is("no shape", b.hit(0, 0), NONE);
+        b.box(0, 0, 1, 0, 0, 60, 60);
+        Due.is("no shape holds the right edge of the board", b.hit(120, 60), NONE);
+        Due.is("nor its upper edge", b.hit(60, 120), NONE);
+        Due.is("the shape 0 is not none", b.hit(119, 0), 0);
         b.show(0, 0, false);
         Due.is("none that is visible", b.hit(10, 10), NONE);
+        b.show(0, 0, true);
+        b.erase(0, 0);
+        Due.is("none that is there", b.hit(10, 10), NONE);
     }
 
     private static void caughtWholly() {
@@ -394,18 +422,43 @@ final class QuestionSentences {
         Layerboard b = new Layerboard();
         Due.draws(b, 0, 0, 1, 0, 1, 1);
         Due.is("the least, numerator", b.area(0, false), 1);
-        Due.is("the least, denominator", b.area(0, true), 2);
+        b.box(0, 0, 1, 0, 0, 60, 60);
+        Due.is("the most, numerator", b.area(1, false), 3600);
+        b.show(0, 0, false);
+        Due.is("also when it is not visible", b.area(1, false), 3600);
+        b.join(0, 2, 1, 0);
+        Due.is("of a joined one", b.area(3, false), 7199);
+    }
+
+    private static void topsAndBottoms() {
+        Layerboard b = new Layerboard();
+        Due.draws(b, 0, 0, 1, 0, 1, 1);
+        Due.is("a half, numerator", b.area(0, false), 1);
+        Due.is("a half, denominator", b.area(0, true), 2);
         Due.draws(b, 0, 0, 1, 0, 0, 0, 1, 0);
         Due.is("nothing, numerator", b.area(1, false), 0);
         Due.is("nothing, denominator", b.area(1, true), 1);
         b.box(0, 0, 1, 0, 0, 60, 60);
-        Due.is("the most, numerator", b.area(2, false), 3600);
-        Due.is("the most, denominator", b.area(2, true), 1);
+        Due.is("whole, denominator", b.area(2, true), 1);
         Due.draws(b, 0, 0, 1, 2, 2, 2, 0, 1);
-        Due.is("edges that cross, numerator", b.area(3, false), 2);
-        Due.is("edges that cross, denominator", b.area(3, true), 3);
-        b.show(0, 0, false);
-        Due.is("also when it is not visible", b.area(2, false), 3600);
+        Due.is("thirds, numerator", b.area(3, false), 2);
+        Due.is("thirds, denominator", b.area(3, true), 3);
+    }
+
+    private static void topsAndBottomsOfTwo() {
+        Layerboard b = new Layerboard();
+        b.box(0, 0, 1, 0, 0, 10, 10);
+        b.diamond(0, 0, 1, 10, 10, 5);
+        b.box(0, 0, 1, 40, 40, 1, 1);
+        Due.is("halves, numerator", b.areaOf(2, 1, 0, false), 75);
+        Due.is("halves, denominator", b.areaOf(2, 1, 0, true), 2);
+        Due.is("whole, numerator", b.areaOf(3, 0, 1, false), 125);
+        Due.is("whole, denominator", b.areaOf(3, 0, 1, true), 1);
+        for (int how = 1; how < 4; how++) {
+            int other = how == 1 ? 2 : 0;
+            Due.is("nothing, numerator", b.areaOf(how, 0, other, false), 0);
+            Due.is("nothing, denominator", b.areaOf(how, 0, other, true), 1);
+        }
     }
 
     private static void areasOfTwo() {
@@ -755,15 +808,25 @@ final class QuestionSentences {
         Layerboard b = new Layerboard();
         String text = "(1,60)(59,0)(7,10)";
         Due.is("empty", b.fault(), 0);
-        for (int i = 0; i < text.length(); i++) {
+        for (int i = 0; i < 17; i++) {
             b.type(text.charAt(i));
-            Due.is("its length, or none", b.fault(), i < 17 ? i + 1 : NONE);
+            Due.is("its length", b.fault(), i + 1);
         }
-        Due.is("told again", b.fault(), NONE);
-        b.type(')');
-        Due.is("the last sign", b.fault(), 18);
+        b.type(';');
+        Due.is("the sign that is wrong", b.fault(), 17);
         b.type('(');
-        Due.is("the first that is wrong", b.fault(), 18);
+        Due.is("the first one that is wrong", b.fault(), 17);
+    }
+
+    private static void noFault() {
+        Layerboard b = new Layerboard();
+        for (int many = 1; many <= 9; many++) {
+            for (char sign : "(1,60)".toCharArray()) {
+                b.type(sign);
+            }
+            Due.is("of " + many, b.fault() == NONE, many >= 3 && many <= 8);
+            Due.is("told again", b.fault() == NONE, many >= 3 && many <= 8);
+        }
     }
 
     private static void papers() {

@@ -125,6 +125,23 @@ final class Refusals {
         }
     }
 
+    /** Of one argument: its least and its greatest value are answered, those beyond are refused. */
+    void holdArgument(int arg) {
+        int held = 0;
+        for (Spoil s : spoils) {
+            if (s.arg == arg) {
+                held++;
+                holdOne(s.due, s, s);
+            }
+        }
+        for (Object[] args : goods) {
+            held += args[arg].equals(good[arg]) ? 0 : 100;
+            Layerboard b = fresh();
+            Due.answers(name + Arrays.toString(args), () -> Told.call(b, name, args));
+        }
+        Due.is(name + ": values of the argument " + arg + " of both kinds", held > 100 && held % 100 > 1, true);
+    }
+
     /** The good call is answered as the 60th change, and throws as the 61st one. */
     void holdFull() {
         for (int made = 59; made <= 60; made++) {

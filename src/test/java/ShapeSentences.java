@@ -30,10 +30,11 @@ final class ShapeSentences {
         d.test(ShapeSentences::fiftyIsNotAboveFifty, "If its denominator would be above 50");
         d.test(ShapeSentences::anewInTheLayerAlone, "If its denominator would be above 50");
         d.test(ShapeSentences::anewOneUp, "If its denominator would be above 50");
-        d.test(ShapeSentences::uppermostStays, "To put a shape one up", "To the top");
+        d.test(() -> uppermostStays(0), "To put a shape one up");
         d.test(ShapeSentences::oneUp, "otherwise its key becomes that between");
         d.test(ShapeSentences::oneDown, "One down");
         d.test(ShapeSentences::toTheTop, "To the top");
+        d.test(() -> uppermostStays(2), "To the top");
         d.test(ShapeSentences::toTheBottom, "To the bottom");
     }
 
@@ -540,19 +541,15 @@ final class ShapeSentences {
         return b;
     }
 
-    private static void uppermostStays() {
+    private static void uppermostStays(int how) {
         Layerboard b = fractionOnTop();
-        Due.is("one up", b.raise(0, 0, 0), 1);
-        keyIs("one up does nothing", b, 0, 5, 2);
-        Due.is("to the top", b.raise(0, 0, 2), 1);
-        keyIs("to the top does nothing", b, 0, 5, 2);
-        Due.is("they are changes all the same", b.changes(), 7);
+        Due.is("how many are below it", b.raise(0, 0, how), 1);
+        keyIs("nothing is done", b, 0, 5, 2);
+        Due.is("it is a change all the same", b.changes(), 6);
         Layerboard c = layerOf(1);
         c.box(0, 2, 1, 0, 0, 1, 1);
-        Due.is("alone in its layer", c.raise(0, 0, 0), 0);
-        keyIs("alone in its layer", c, 0, 1, 1);
-        Due.is("what is above in another layer does not count", c.raise(0, 0, 2), 0);
-        keyIs("alone in its layer", c, 0, 1, 1);
+        Due.is("alone, with another layer above", c.raise(0, 0, how), 0);
+        keyIs("nothing is done", c, 0, 1, 1);
     }
 
     private static void oneUp() {
