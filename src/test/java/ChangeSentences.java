@@ -718,6 +718,13 @@ final class ChangeSentences {
         Due.fails("a group is no shape", Due.INDEX, () -> b.of(4, 0));
         Due.is("undo", b.undo(2), 4);
         Due.is("gathered no more", b.of(1, 4), NONE);
+        Layerboard c = boxes(3);
+        c.gather(0, 0b011);
+        c.gather(1, 0b110);
+        Due.is("a group in a group", c.of(0, 4), 4);
+        Due.is("undo of the outer one", c.undo(1), 4);
+        Due.is("the inner one is the outermost again", c.of(0, 4), 3);
+        Due.is("it moves alone", c.move(0, 2, 1, 1, false), 1);
     }
 
     private static void scatters() {
